@@ -339,6 +339,13 @@ public final class PromiseTest {
         }
         checks.same("newGame ahead of all throws", 0, x.newGame());
 
+        SkittleStrings second = alley(2);
+        onePinFrame(second);
+        second.throwBall(3, 2);
+        checks.same("newGame within the frame of the player 1", 1, second.newGame());
+        checks.same("the turn behind it", 0, second.playerInTurn());
+        checks.same("throws in the frame behind it", 0, second.throwsInFrame());
+
         SkittleStrings spares = finishedGameOfSpares();
         checks.same("newGame behind a game", 0, spares.newGame());
         checks.same("the new game is not over", false, spares.isOver());
