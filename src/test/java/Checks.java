@@ -6,6 +6,7 @@ final class Checks {
     }
 
     private final String subject;
+    private String test = "";
     private int passed;
     private int failed;
 
@@ -13,12 +14,17 @@ final class Checks {
         this.subject = subject;
     }
 
+    /** The checks that follow are told as those of this test. */
+    void begin(String name) {
+        test = name + ": ";
+    }
+
     void same(String what, Object due, Object got) {
         if (due.equals(got)) {
             passed++;
         } else {
             failed++;
-            System.out.println(subject + ": " + what + " answered " + got + ", due is " + due);
+            System.out.println(subject + ": " + test + what + " answered " + got + ", due is " + due);
         }
     }
 
@@ -34,6 +40,15 @@ final class Checks {
         throwing(what, IllegalArgumentException.class, call);
     }
 
+    /** The exact class counts: the machine's own exceptions are classes below the due ones. */
+    void throwing(String what, Class<?> due, Call call) {
+        same(what, due.getName(), answer(call));
+    }
+
+    void answering(String what, Call call) {
+        same(what + ": an exception", false, answer(call).contains("Exception"));
+    }
+
     int failed() {
         return failed;
     }
@@ -44,14 +59,10 @@ final class Checks {
         System.exit(failed == 0 && passed > 0 ? 0 : 1);
     }
 
-    private void throwing(String what, Class<?> due, Call call) {
-        same(what + " throws", due.getName(), nameOfThrown(call));
-    }
-
-    /** The exact class counts: the machine's own exceptions are classes below the due ones. */
-    private static String nameOfThrown(Call call) {
+    /** The answer as a text, or the name of the exception. */
+    static String answer(Call call) {
         try {
-            return "nothing, but answers " + call.answer();
+            return String.valueOf(call.answer());
         } catch (RuntimeException e) {
             return e.getClass().getName();
         }

@@ -67,6 +67,17 @@ final class Model {
         frames.add(new Frame());
     }
 
+    /** One player's new game in which these pins stand, and the strings of all others are broken. */
+    static Model ofPins(String standing) {
+        Model model = new Model();
+        model.addPlayer();
+        for (Pin pin : model.pins) {
+            pin.stands = standing.contains("" + pin.number);
+            pin.wear = pin.stands ? 0 : 12;
+        }
+        return model;
+    }
+
     // ---- the game
 
     int addPlayer() {

@@ -37,7 +37,7 @@ public final class ModelTest {
             int a = kind == 1 ? ballToThrow(model) : argument(kind);
             int b = kind == 20 && next(40) > 0 ? next(11) : argument(kind);
             String what = "run " + run + ", call " + call + ": kind " + kind + " (" + a + ", " + b + ")";
-            checks.same(what, answer(() -> ofModel(model, kind, a, b)), answer(() -> ofClass(x, kind, a, b)));
+            checks.same(what, Checks.answer(() -> ofModel(model, kind, a, b)), Checks.answer(() -> ofClass(x, kind, a, b)));
             noteReached(model);
         }
     }
@@ -80,14 +80,6 @@ public final class ModelTest {
             return odd[next(odd.length)];
         }
         return kind == 1 || kind >= 24 ? next(5) : kind == 3 ? next(6) : kind >= 18 ? next(4) : next(9);
-    }
-
-    private static String answer(Checks.Call call) {
-        try {
-            return String.valueOf(call.answer());
-        } catch (RuntimeException e) {
-            return e.getClass().getName();
-        }
     }
 
     private void noteReached(Model model) {

@@ -1,8 +1,6 @@
 /** The promises one by one, with answers worked out by hand from the document. */
-public final class PromiseTest {
+public final class PromiseTest extends Suite {
     private static final int[] TOO_SMALL_AND_TOO_LARGE = {-1, Integer.MIN_VALUE, 100, Integer.MAX_VALUE};
-
-    private final Checks checks = new Checks("PromiseTest");
 
     private PromiseTest() {
     }
@@ -62,94 +60,6 @@ public final class PromiseTest {
         promise32();
     }
 
-    // ---- alleys to begin with
-
-    private static SkittleStrings alley(int players) {
-        SkittleStrings x = new SkittleStrings();
-        for (int i = 0; i < players; i++) {
-            x.addPlayer();
-        }
-        return x;
-    }
-
-    /** A frame of three throws: 7 pins fall, then none; 6 and 7 stay. */
-    private static void sevenFrame(SkittleStrings x) {
-        x.throwBall(4, 2);
-        x.throwBall(3, 2);
-        x.throwBall(2, 2);
-    }
-
-    /** A spare: 7, 1 and 1 pins fall. */
-    private static void spareFrame(SkittleStrings x) {
-        x.throwBall(4, 2);
-        x.throwBall(3, 1);
-        x.throwBall(2, 3);
-    }
-
-    /** One pin of nine falls. */
-    private static void onePinFrame(SkittleStrings x) {
-        x.throwBall(0, 0);
-        x.throwBall(1, 0);
-        x.throwBall(2, 0);
-    }
-
-    private static SkittleStrings finishedGame() {
-        SkittleStrings x = alley(1);
-        for (int i = 0; i < 10; i++) {
-            sevenFrame(x);
-        }
-        return x;
-    }
-
-    /**
-     * The frame 2 of a second game begins. The strings of all pins but 6 and 7 are broken, and these two
-     * are worn by 11; 6 throws were thrown in this game; the ball 3 is away for one throw, the ball 2 for two.
-     */
-    private static SkittleStrings wornAlley() {
-        SkittleStrings x = alley(1);
-        for (int i = 0; i < 10; i++) {
-            spareFrame(x);
-        }
-        x.newGame();
-        spareFrame(x);
-        sevenFrame(x);
-        return x;
-    }
-
-    /** The worn alley a frame later: with a spare it broke the strings of 6 and 7 too. */
-    private static SkittleStrings brokenAlley() {
-        SkittleStrings x = wornAlley();
-        x.throwBall(4, 1);
-        x.throwBall(0, 3);
-        return x;
-    }
-
-    private static String pinsThatStand(SkittleStrings x) {
-        StringBuilder pins = new StringBuilder();
-        for (int pin = 0; pin < 9; pin++) {
-            if (x.isStanding(pin)) {
-                pins.append(pin);
-            }
-        }
-        return pins.toString();
-    }
-
-    private static String wears(SkittleStrings x) {
-        StringBuilder wears = new StringBuilder();
-        for (int pin = 0; pin < 9; pin++) {
-            wears.append(pin == 0 ? "" : " ").append(x.wearOf(pin));
-        }
-        return wears.toString();
-    }
-
-    private static String away(SkittleStrings x) {
-        StringBuilder away = new StringBuilder();
-        for (int ball = 0; ball < 5; ball++) {
-            away.append(x.awayFor(ball));
-        }
-        return away.toString();
-    }
-
     // ---- the game
 
     private void promise1() {
@@ -157,7 +67,7 @@ public final class PromiseTest {
         checks.same("players of a new object", 0, x.players());
         checks.same("pins of a new object", "012345678", pinsThatStand(x));
         checks.same("wears of a new object", "0 0 0 0 0 0 0 0 0", wears(x));
-        checks.same("balls of a new object", "00000", away(x));
+        checks.same("balls of a new object", "0 0 0 0 0", away(x));
         checks.same("spare strings of a new object", 3, x.spareStrings());
         SkittleStrings other = alley(1);
         other.throwBall(4, 2);
@@ -330,7 +240,7 @@ public final class PromiseTest {
         checks.same("throws in the frame of the new game", 0, x.throwsInFrame());
         checks.same("pins of the new game", "012345678", pinsThatStand(x));
         checks.same("wears of the new game", "2 2 2 4 2 2 0 0 0", wears(x));
-        checks.same("balls of the new game", "00000", away(x));
+        checks.same("balls of the new game", "0 0 0 0 0", away(x));
         checks.same("spare strings of the new game", 2, x.spareStrings());
         for (int player = 0; player < 3; player++) {
             checks.same("throws in the new game", 0, x.throwsOf(player));
@@ -355,14 +265,6 @@ public final class PromiseTest {
         SkittleStrings worn = wornAlley();
         worn.newGame();
         checks.same("pins of a new game in the worn alley", "67", pinsThatStand(worn));
-    }
-
-    private static SkittleStrings finishedGameOfSpares() {
-        SkittleStrings x = alley(1);
-        for (int i = 0; i < 10; i++) {
-            spareFrame(x);
-        }
-        return x;
     }
 
     // ---- the alley
@@ -446,13 +348,13 @@ public final class PromiseTest {
     private void promise14() {
         SkittleStrings x = alley(2);
         x.throwBall(0, 0);
-        checks.same("balls behind one throw", "20000", away(x));
+        checks.same("balls behind one throw", "2 0 0 0 0", away(x));
         x.throwBall(4, 0);
-        checks.same("balls behind two throws", "10002", away(x));
+        checks.same("balls behind two throws", "1 0 0 0 2", away(x));
         x.throwBall(2, 0);
-        checks.same("balls behind three throws", "00201", away(x));
+        checks.same("balls behind three throws", "0 0 2 0 1", away(x));
         x.throwBall(0, 0);
-        checks.same("balls behind the first one's next throw", "20100", away(x));
+        checks.same("balls behind the first one's next throw", "2 0 1 0 0", away(x));
         checks.outOfBounds("awayFor(5)", () -> x.awayFor(5));
         for (int wrong : TOO_SMALL_AND_TOO_LARGE) {
             checks.outOfBounds("awayFor(" + wrong + ")", () -> x.awayFor(wrong));
@@ -668,7 +570,7 @@ public final class PromiseTest {
         checks.same("bestThrow without the ball 2", 32, x.bestThrow());
         x.throwBall(3, 2);
         checks.same("bestThrow of several alike", 3, x.bestThrow());
-        checks.same("balls behind bestThrow", "00120", away(x));
+        checks.same("balls behind bestThrow", "0 0 1 2 0", away(x));
         checks.same("pins behind bestThrow", "7", pinsThatStand(x));
         SkittleStrings broken = brokenAlley();
         checks.same("bestThrow without pins", 10, broken.bestThrow());
