@@ -251,4 +251,38 @@ public final class AlleyBoundaryTest extends Suite {
     void awayForTells0WithoutPlayers() {
         checks.same("balls", "0 0 0 0 0", away(new SkittleStrings()));
     }
+
+    // ---- "Nothing is promised beyond the answers and state changes described": what is asked changes nothing
+
+    void isStandingChangesNothing() {
+        changesNothing(x -> x.isStanding(6));
+    }
+
+    void standingChangesNothing() {
+        changesNothing(SkittleStrings::standing);
+    }
+
+    void wearOfChangesNothing() {
+        changesNothing(x -> x.wearOf(6));
+    }
+
+    void isBrokenChangesNothing() {
+        changesNothing(x -> x.isBroken(6));
+    }
+
+    void brokenStringsChangesNothing() {
+        changesNothing(SkittleStrings::brokenStrings);
+    }
+
+    void mostWornChangesNothing() {
+        changesNothing(SkittleStrings::mostWorn);
+    }
+
+    void spareStringsChangesNothing() {
+        changesNothing(SkittleStrings::spareStrings);
+    }
+
+    void awayForChangesNothing() {
+        changesNothing(x -> x.awayFor(2));
+    }
 }

@@ -1,10 +1,31 @@
-/** The promises 1 to 6, the game: each boundary case that they name, in a test of its own. */
+/** 'What it is' and the promises 1 to 6, the game: each boundary case that they name, in a test of its own. */
 public final class GameBoundaryTest extends Suite {
     private GameBoundaryTest() {
     }
 
     public static void main(String[] args) {
         new GameBoundaryTest().runAll();
+    }
+
+    // ---- "An object is used for at most 512 calls after it has been made"
+
+    void anObjectAnswersToItsLastOf512Calls() {
+        SkittleStrings x = new SkittleStrings();
+        checks.same("call 1: addPlayer()", 0, x.addPlayer());
+        // 16 games of 31 calls; the pin 3 falls once in each frame, until its string breaks with the 12th.
+        for (int frame = 0; frame < 160; frame++) {
+            checks.same("the first throw of frame " + frame, frame < 12 ? 1 : 0, x.throwBall(0, 0));
+            checks.same("the second one", 0, x.throwBall(1, 0));
+            checks.same("the third one", 0, x.throwBall(2, 0));
+            if (frame % 10 == 9) {
+                checks.same("newGame() behind frame " + frame, 0, x.newGame());
+            }
+        }
+        for (int call = 498; call <= 510; call++) {
+            checks.same("call " + call + ": buyStrings(20)", 3 + 20 * (call - 497), x.buyStrings(20));
+        }
+        checks.same("call 511: throwBall(4, 2), without the pin 3", 6, x.throwBall(4, 2));
+        checks.same("call 512: wearOf(3)", 12, x.wearOf(3));
     }
 
     // ---- Promise 1: "Creates an alley without players; all pins stand, no ball is away."

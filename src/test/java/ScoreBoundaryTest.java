@@ -389,4 +389,50 @@ public final class ScoreBoundaryTest extends Suite {
         x.throwBall(0, 2);
         checks.same("leader() behind the next throw of the strike", 1, x.leader());
     }
+
+    // ---- "Nothing is promised beyond the answers and state changes described": what is asked changes nothing
+
+    void playersChangesNothing() {
+        changesNothing(SkittleStrings::players);
+    }
+
+    void playerInTurnChangesNothing() {
+        changesNothing(SkittleStrings::playerInTurn);
+    }
+
+    void frameChangesNothing() {
+        changesNothing(SkittleStrings::frame);
+    }
+
+    void throwsInFrameChangesNothing() {
+        changesNothing(SkittleStrings::throwsInFrame);
+    }
+
+    void isOverChangesNothing() {
+        changesNothing(SkittleStrings::isOver);
+    }
+
+    void throwsOfChangesNothing() {
+        changesNothing(x -> x.throwsOf(0));
+    }
+
+    void scoreOfChangesNothing() {
+        changesNothing(x -> x.scoreOf(0));
+    }
+
+    void pointsOfChangesNothing() {
+        changesNothing(x -> x.pointsOf(0, 0));
+    }
+
+    void strikesOfChangesNothing() {
+        changesNothing(x -> x.strikesOf(0));
+    }
+
+    void sparesOfChangesNothing() {
+        changesNothing(x -> x.sparesOf(0));
+    }
+
+    void leaderChangesNothing() {
+        changesNothing(SkittleStrings::leader);
+    }
 }

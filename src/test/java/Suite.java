@@ -1,6 +1,7 @@
 import java.lang.reflect.InvocationTargetException;
 import java.lang.reflect.Method;
 import java.lang.reflect.Modifier;
+import java.util.List;
 import java.util.TreeMap;
 import java.util.function.BiFunction;
 import java.util.function.Function;
@@ -226,6 +227,19 @@ abstract class Suite {
         told.append(' ').append(x.newGame()).append(' ').append(x.digest());
         told.append(' ').append(Checks.answer(x::addPlayer)).append(' ').append(x.digest());
         return told.toString();
+    }
+
+    // ---- calls that change nothing
+
+    /** Within a frame, with worn and with broken strings, and behind a game the alley goes on as if not asked. */
+    final void changesNothing(Function<SkittleStrings, Object> call) {
+        List<Supplier<SkittleStrings>> alleys =
+                List.of(Suite::begun, Suite::wornAlley, Suite::brokenAlley, () -> finishedGame(4));
+        for (Supplier<SkittleStrings> made : alleys) {
+            SkittleStrings x = made.get();
+            call.apply(x);
+            checks.same("the game behind it", goOn(made.get()), goOn(x));
+        }
     }
 
     // ---- calls that are refused

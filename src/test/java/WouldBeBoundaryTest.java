@@ -1,5 +1,4 @@
 import java.math.BigInteger;
-import java.util.function.Function;
 
 /** The promises 26 to 32, what would be: each boundary case that they name, in a test of its own. */
 public final class WouldBeBoundaryTest extends Suite {
@@ -8,12 +7,6 @@ public final class WouldBeBoundaryTest extends Suite {
 
     public static void main(String[] args) {
         new WouldBeBoundaryTest().runAll();
-    }
-
-    private void changesNothing(Function<SkittleStrings, Object> call) {
-        SkittleStrings x = begun();
-        call.apply(x);
-        checks.same("the game behind it", goOn(begun()), goOn(x));
     }
 
     // ---- Promise 26: wouldFall
@@ -280,6 +273,10 @@ public final class WouldBeBoundaryTest extends Suite {
         }
         x.throwBall(4, 2);
         checks.same("meanScore() of 1, 1, 1 and 7", 2.5, x.meanScore());
+    }
+
+    void meanScoreChangesNothing() {
+        changesNothing(SkittleStrings::meanScore);
     }
 
     // ---- Promise 32: digest
